@@ -1,0 +1,134 @@
+import java.io.IOException;
+import java.lang.reflect.Constructor;
+import java.lang.reflect.Field;
+import java.lang.reflect.Member;
+import java.lang.reflect.Method;
+import java.lang.reflect.Modifier;
+import java.nio.file.Files;
+import java.nio.file.Path;
+import java.util.ArrayList;
+import java.util.HashSet;
+import java.util.List;
+import java.util.Set;
+import java.util.TreeSet;
+import java.util.regex.Matcher;
+import java.util.regex.Pattern;
+
+/** The face of the document, and the rules of LANGUAGE.md that can be looked up. */
+final class LanguageTest {
+    private static final Path SOURCE = Path.of("src/main/java/ClockFeet.java");
+    private static final Path DOCUMENT = Path.of("../shared/DOC.md");
+    private static final String[] FORBIDDEN = {"throw", "throws", "try", "catch", "synchronized",
+        "assert", "import", "package", "protected", "default ->", "->", "::", "@", "record", "Object",
+        "toString", "hashCode", "equals", "System.out", "System.nanoTime", "System.currentTimeMillis",
+        "Random", "static {", "String", "Exception", "NaN", "yield", "var"};
+
+    private LanguageTest() {
+    }
+
+    static void run(Checks c) {
+        try {
+            face(c, Files.readString(DOCUMENT));
+            words(c, codeOf(Files.readString(SOURCE)));
+        } catch (IOException missing) {
+            c.wrong("can't read " + missing.getMessage());
+        }
+        members(c);
+        sizes(c);
+    }
+
+    private static String codeOf(String source) {
+        return source.replaceAll("(?s)/\\*.*?\\*/", "").replaceAll("//[^\n]*", "");
+    }
+
+    private static void face(Checks c, String document) {
+        Set<String> due = new TreeSet<>();
+        Matcher line = Pattern.compile("    public (int|long) (\\w+)\\(([^)]*)\\);").matcher(document);
+        while (line.find()) {
+            due.add(line.group(1) + " " + line.group(2) + " " + line.group(3).replaceAll(" \\w+(,|$)", "$1"));
+        }
+        Set<String> got = new TreeSet<>();
+        for (Method method : ClockFeet.class.getDeclaredMethods()) {
+            if (Modifier.isPublic(method.getModifiers())) {
+                StringBuilder types = new StringBuilder();
+                for (Class<?> type : method.getParameterTypes()) {
+                    types.append(types.length() == 0 ? "" : ", ").append(type.getName());
+                }
+                got.add(method.getReturnType().getName() + " " + method.getName() + " " + types);
+            }
+        }
+        c.is(due.size(), 44);
+        if (!due.equals(got)) {
+            c.wrong("the face is " + got + ", due is " + due);
+        }
+    }
+
+    private static void words(Checks c, String code) {
+        for (String word : FORBIDDEN) {
+            boolean letters = Character.isLetter(word.charAt(0)) && Character.isLetter(word.charAt(word.length() - 1));
+            String found = letters ? "\\b" + Pattern.quote(word) + "\\b" : Pattern.quote(word);
+            if (Pattern.compile(found).matcher(code).find()) {
+                c.wrong("the program holds '" + word + "'");
+            } else {
+                c.right();
+            }
+        }
+    }
+
+    private static void members(Checks c) {
+        List<Member> all = new ArrayList<>();
+        all.addAll(List.of(ClockFeet.class.getDeclaredMethods()));
+        all.addAll(List.of(ClockFeet.class.getDeclaredFields()));
+        all.addAll(List.of((Constructor<?>[]) ClockFeet.class.getDeclaredConstructors()));
+        for (Member member : all) {
+            boolean hidden = Modifier.isPrivate(member.getModifiers()) || member.isSynthetic();
+            if (!hidden && !Modifier.isPublic(member.getModifiers())) {
+                c.wrong(member + " is neither private nor public");
+            }
+        }
+        Set<String> open = new HashSet<>();
+        for (Method method : ClockFeet.class.getDeclaredMethods()) {
+            if (Modifier.isPublic(method.getModifiers())) {
+                open.add(method.getName());
+            }
+        }
+        for (Class<?> one : classes()) {
+            for (Method method : one.getDeclaredMethods()) {
+                if (!Modifier.isPublic(method.getModifiers()) && open.contains(method.getName())) {
+                    c.wrong(method + " bears the name of a public one");
+                }
+                if (method.getParameterCount() > 7) {
+                    c.wrong(method + " takes more than seven parameters");
+                }
+            }
+        }
+    }
+
+    private static List<Class<?>> classes() {
+        List<Class<?>> all = new ArrayList<>(List.of(ClockFeet.class));
+        all.addAll(List.of(ClockFeet.class.getDeclaredClasses()));
+        return all;
+    }
+
+    private static void sizes(Checks c) {
+        if (classes().size() > 12) {
+            c.wrong("there are " + classes().size() + " classes");
+        }
+        for (Class<?> one : classes()) {
+            int fields = 0;
+            for (Field field : one.getDeclaredFields()) {
+                boolean constant = Modifier.isStatic(field.getModifiers());
+                fields += constant ? 0 : 1;
+                if (constant && !Modifier.isFinal(field.getModifiers())) {
+                    c.wrong(field + " is static and not final");
+                }
+            }
+            if (fields > 20) {
+                c.wrong(one + " has " + fields + " fields");
+            }
+            if (one != ClockFeet.class && !Modifier.isStatic(one.getModifiers())) {
+                c.wrong(one + " is not static");
+            }
+        }
+    }
+}
