@@ -5,6 +5,7 @@
 public final class ClockFeet {
     public static final int BAD = -1, FULL = -2, FINDING = -3, STATE = -4, SPENT = -6, NONE = -9;
 
+    private static final int FINE = 0;
     private static final int NOTHING = 1, BEYOND = 2, UNLIKE = 3, NOUGHT = 4, SIZE = 5;
     private static final int GUILD = 0, HEAVY = 1, CHILDREN = 2, CATS = 3, REGIMENT = 4, TIPTOE = 5;
     private static final int BARE = 0, CARPET = 1, SNOW = 2;
@@ -48,55 +49,30 @@ public final class ClockFeet {
     // ---- 1 rows, texts, halls
 
     public int row(int r, int n) {
-        if (!isRow(r) || n > MOST_PLACES) {
-            return BAD;
-        }
-        if (n < 0) {
-            return find(SIZE);
-        }
-        rows[r].open(n, 0);
-        return n;
+        return open(rows, r, n, 0);
     }
 
     public int lay(int r, int i, int v) {
-        if (!isRow(r)) {
-            return BAD;
-        }
-        if (!rows[r].isThere()) {
-            return find(NOTHING);
-        }
-        if (!rows[r].has(i)) {
-            return find(BEYOND);
-        }
-        return tell(rows[r].replace(i, v));
+        int refusal = refusePlace(rows, r, i);
+        return refusal != FINE ? refusal : tell(rows[r].replace(i, v));
     }
 
     public int at(int r, int i) {
-        if (!isRow(r)) {
-            return BAD;
-        }
-        if (!rows[r].isThere()) {
-            return find(NOTHING);
-        }
-        if (!rows[r].has(i)) {
-            return find(BEYOND);
-        }
-        return tell(rows[r].cells[i]);
+        int refusal = refusePlace(rows, r, i);
+        return refusal != FINE ? refusal : tell(rows[r].cells[i]);
     }
 
     public int tear(int r) {
-        if (!isRow(r)) {
-            return BAD;
-        }
-        if (!rows[r].isThere()) {
-            return find(NOTHING);
+        int refusal = refuse(rows, r);
+        if (refusal != FINE) {
+            return refusal;
         }
         rows[r].close();
         return 1;
     }
 
     public int copy(int r, int i, int to, int j, int n) {
-        if (!isRow(r) || !isRow(to)) {
+        if (!has(rows, r) || !has(rows, to)) {
             return BAD;
         }
         if (n < 0) {
@@ -113,11 +89,9 @@ public final class ClockFeet {
     }
 
     public int mean(int r) {
-        if (!isRow(r)) {
-            return BAD;
-        }
-        if (!rows[r].isThere()) {
-            return find(NOTHING);
+        int refusal = refuse(rows, r);
+        if (refusal != FINE) {
+            return refusal;
         }
         if (rows[r].size == 0) {
             return find(NOUGHT);
@@ -126,50 +100,29 @@ public final class ClockFeet {
     }
 
     public int text(int t, int n) {
-        if (!isText(t) || n > MOST_BYTES) {
-            return BAD;
-        }
-        if (n < 0) {
-            return find(SIZE);
-        }
-        texts[t].open(n, BLANK);
-        return n;
+        return open(texts, t, n, BLANK);
     }
 
     public int put(int t, int i, int v) {
-        if (!isText(t)) {
-            return BAD;
-        }
-        if (!texts[t].isThere()) {
-            return find(NOTHING);
-        }
-        if (!texts[t].has(i)) {
-            return find(BEYOND);
-        }
-        return 1000 + texts[t].replace(i, (byte) v);
+        int refusal = refusePlace(texts, t, i);
+        return refusal != FINE ? refusal : 1000 + texts[t].replace(i, (byte) v);
     }
 
     public int fault(int t) {
-        if (!isText(t)) {
-            return BAD;
-        }
-        if (!texts[t].isThere()) {
-            return find(NOTHING);
-        }
-        return reader.read(texts[t]);
+        int refusal = refuse(texts, t);
+        return refusal != FINE ? refusal : reader.read(texts[t]);
     }
 
     public int hall(int t) {
-        if (!isText(t)) {
-            return BAD;
-        }
-        if (!texts[t].isThere()) {
-            return find(NOTHING);
+        int refusal = refuse(texts, t);
+        if (refusal != FINE) {
+            return refusal;
         }
         if (reader.read(texts[t]) != NONE) {
             return STATE;
         }
         hall.build(reader);
+        hall.replay();
         for (int k = 0; k < KEPT_HALLS; k++) {
             keptSteps[k].close();
         }
@@ -257,7 +210,7 @@ public final class ClockFeet {
     }
 
     public int keep(int k) {
-        if (!isKeptPlace(k)) {
+        if (!has(keptSteps, k)) {
             return BAD;
         }
         if (hall.isEmpty()) {
@@ -269,11 +222,9 @@ public final class ClockFeet {
     }
 
     public int on(int k) {
-        if (!isKeptPlace(k)) {
-            return BAD;
-        }
-        if (!keptSteps[k].isThere()) {
-            return find(NOTHING);
+        int refusal = refuse(keptSteps, k);
+        if (refusal != FINE) {
+            return refusal;
         }
         hall.takeFeet(keptFeet[k]);
         hall.steps.takeFrom(keptSteps[k]);
@@ -297,7 +248,7 @@ public final class ClockFeet {
     }
 
     public int after(int r) {
-        if (!isRow(r)) {
+        if (!has(rows, r)) {
             return BAD;
         }
         if (hall.isEmpty()) {
@@ -329,7 +280,7 @@ public final class ClockFeet {
     // ---- 4 orders (aside)
 
     public int order(int g, int tooth, int r) {
-        if (!hall.hasGuild(g) || !hall.hasTooth(tooth) || !isRow(r)) {
+        if (!hall.hasGuild(g) || !hall.hasTooth(tooth) || !has(rows, r)) {
             return BAD;
         }
         sets.look();
@@ -607,16 +558,34 @@ public final class ClockFeet {
 
     // ---- helpers of the calls
 
-    private static boolean isRow(int r) {
-        return r >= 0 && r < ROWS;
+    private static boolean has(Strip[] strips, int s) {
+        return s >= 0 && s < strips.length;
     }
 
-    private static boolean isText(int t) {
-        return t >= 0 && t < TEXTS;
+    private int refuse(Strip[] strips, int s) {
+        if (!has(strips, s)) {
+            return BAD;
+        }
+        return strips[s].isThere() ? FINE : find(NOTHING);
     }
 
-    private static boolean isKeptPlace(int k) {
-        return k >= 0 && k < KEPT_HALLS;
+    private int refusePlace(Strip[] strips, int s, int i) {
+        int refusal = refuse(strips, s);
+        if (refusal != FINE) {
+            return refusal;
+        }
+        return strips[s].has(i) ? FINE : find(BEYOND);
+    }
+
+    private int open(Strip[] strips, int s, int n, int filler) {
+        if (!has(strips, s) || n > strips[s].cells.length) {
+            return BAD;
+        }
+        if (n < 0) {
+            return find(SIZE);
+        }
+        strips[s].open(n, filler);
+        return n;
     }
 
     private static int countThere(Strip[] strips) {
@@ -1038,7 +1007,6 @@ public final class ClockFeet {
                 guilds[g] = newGuild(told.kinds[g], told.feet[g]);
             }
             steps.open(0, 0);
-            replay();
         }
 
         private static Guild newGuild(int kind, int feet) {
@@ -1117,7 +1085,7 @@ public final class ClockFeet {
         }
 
         private void takeWalk(int g) {
-            int tread = treadNow(g);
+            int tread = guilds[g].treadOn(ground);
             int reached = tooth + tread;
             rounds += byTeeth(reached);
             tooth = wrap(reached);
@@ -1211,6 +1179,7 @@ public final class ClockFeet {
     private static final class Sets {
         private final Hall hall;
         private final int[] shifts = new int[MOST_SETS];
+        private final int[] stops = new int[MOST_SETS];
         private final int[] scores = new int[MOST_SETS];
         private int all = 0;
         private int toldGuild = NOBODY;
@@ -1220,25 +1189,23 @@ public final class ClockFeet {
             this.hall = hall;
         }
 
-        /** Finds how many TEETH each set moves the DIAL on, whole ROUNDS aside. */
+        /** Finds by how many TEETH each set moves the DIAL on, whole ROUNDS aside, and to where. */
         void look() {
             shifts[0] = 0;
+            stops[0] = hall.tooth;
             for (int g = 0; g < hall.guildCount; g++) {
                 int bit = 1 << g;
                 int tread = hall.treadNow(g);
                 for (int set = 0; set < bit; set++) {
                     shifts[set | bit] = hall.wrap(shifts[set] + tread);
+                    stops[set | bit] = hall.wrap(stops[set] + tread);
                 }
             }
             all = (1 << hall.guildCount) - 1;
         }
 
-        private int toothBehind(int set) {
-            return hall.wrap(hall.tooth + shifts[set]);
-        }
-
         private boolean isDue(int set) {
-            return hall.hasRentAt(toothBehind(set));
+            return hall.hasRentAt(stops[set]);
         }
 
         /**
@@ -1266,7 +1233,7 @@ public final class ClockFeet {
             if (isDue(then)) {
                 wrongs++;
             }
-            if (g == toldGuild && toothBehind(then) != toldTooth) {
+            if (g == toldGuild && stops[then] != toldTooth) {
                 wrongs++;
             }
             return wrongs;
