@@ -1157,7 +1157,7 @@ public final class ClockFeet {
         /** Walks of a tread until the DIAL is at the same TOOTH again. */
         int walksToReturn(int tread) {
             int shared = (int) greatestDivisor(teeth, tread);
-            return shared < 1 ? 1 : teeth / shared;
+            return shared < 1 ? 1 : Math.max(1, teeth / shared);
         }
 
         /** All TEETH that can be had lie this far from one another. */

@@ -39,6 +39,10 @@ final class HadTest {
         fewestIs(c, turned, 2, 1, 2);
         ClockFeet longest = Halls.of("d60 g1");
         fewestIs(c, longest, 59, 59, 0);
+        ClockFeet wound = Halls.of("d60 g7 k1");
+        fewestIs(c, wound, 10, 10, 0);
+        fewestIs(c, wound, 53, 59, 0);
+        c.is(wound.feet(53), 59 * 7);
         ClockFeet rents = Halls.of("d12 g2 e02");
         fewestIs(c, rents, 4, 2, 0);
     }

@@ -33,6 +33,7 @@ final class LanguageTest {
         } catch (IOException missing) {
             c.wrong("can't read " + missing.getMessage());
         }
+        constants(c);
         members(c);
         sizes(c);
     }
@@ -61,6 +62,15 @@ final class LanguageTest {
         if (!due.equals(got)) {
             c.wrong("the face is " + got + ", due is " + due);
         }
+    }
+
+    private static void constants(Checks c) {
+        c.is(ClockFeet.BAD, -1);
+        c.is(ClockFeet.FULL, -2);
+        c.is(ClockFeet.FINDING, -3);
+        c.is(ClockFeet.STATE, -4);
+        c.is(ClockFeet.SPENT, -6);
+        c.is(ClockFeet.NONE, -9);
     }
 
     private static void words(Checks c, String code) {

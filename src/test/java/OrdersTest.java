@@ -108,6 +108,9 @@ final class OrdersTest {
         ClockFeet one = Halls.of("d12 g1 g2 g3 e01 e02");
         c.tells(one, one.quiet(), 3);
         c.is(one.upper(), 2);
+        ClockFeet alone = Halls.of("d12 g1");
+        c.tells(alone, alone.quiet(), 1);
+        c.is(alone.upper(), 1);
         one.floor(1);
         c.tells(one, one.quiet(), 0);
         c.is(one.upper(), 0);

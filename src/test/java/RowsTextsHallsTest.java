@@ -264,8 +264,13 @@ final class RowsTextsHallsTest {
         c.is(x.fault(-1), ClockFeet.BAD);
         Halls.write(x, 1, "d12g1");
         c.is(x.fault(1), ClockFeet.NONE);
-        c.is(x.fault(1), ClockFeet.NONE);
         c.is(x.count(0), 0);
+        Halls.write(x, 2, "d12g1e05e07");
+        c.is(x.fault(2), ClockFeet.NONE);
+        c.is(x.fault(2), ClockFeet.NONE);
+        c.is(x.hall(2), 1);
+        c.is(x.fault(1), ClockFeet.NONE);
+        c.is(x.count(6), 2);
     }
 
     private static void hall(Checks c) {

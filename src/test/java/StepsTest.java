@@ -40,6 +40,10 @@ final class StepsTest {
         c.is(x.undo(59), 1);
         c.is(x.walk(1), 5);
         c.is(new ClockFeet().walk(0), ClockFeet.BAD);
+        ClockFeet six = Halls.of("d60 g1 g2 g3 g4 g5 g6");
+        c.is(six.walk(5), 6);
+        c.is(six.walk(4), 11);
+        c.is(Halls.detail(six, 5, 4), 1);
     }
 
     private static void floor(Checks c) {
