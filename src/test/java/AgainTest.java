@@ -64,6 +64,7 @@ final class AgainTest {
         bothIs(c, fast, 24, 0, 4, 6);
         ClockFeet whole = Halls.of("d12 h6");
         bothIs(c, whole, 13, 1, 1, 1);
+        bothIs(c, whole, 13, 2, 2, 2);
         bothIs(c, whole, 13, 0, 13, 13);
         c.is(whole.both(0, 24, 6), ClockFeet.NONE);
         ClockFeet cats = Halls.of("d12 k1 g1");
