@@ -2,15 +2,40 @@
 final class Checks {
     private static final int PROMISES = 45;
 
+    private final Document document = new Document();
     private final boolean[] seen = new boolean[PROMISES + 1];
     private int promise = 0;
+    private String sentence = "";
+    private int atSentence = 0;
+    private int sentences = 0;
     private int passed = 0;
     private int failed = 0;
 
     /** What follows tests this promise. */
     void promise(int number) {
+        endSentence();
         promise = number;
         seen[number] = true;
+    }
+
+    /** What follows tests these words of the document; 0 are its Terms. */
+    void sentence(int number, String words) {
+        endSentence();
+        promise = number;
+        seen[number] = true;
+        sentence = words;
+        atSentence = passed + failed;
+        sentences++;
+        if (!document.name(number, words)) {
+            wrong("promise " + number + " does not say (once more): " + words);
+        }
+    }
+
+    private void endSentence() {
+        if (!sentence.isEmpty() && passed + failed == atSentence) {
+            wrong("promise " + promise + ", nothing is looked at for: " + sentence);
+        }
+        sentence = "";
     }
 
     void is(long got, long due) {
@@ -18,36 +43,56 @@ final class Checks {
             passed++;
             return;
         }
-        failed++;
-        StackTraceElement line = new Throwable().getStackTrace()[1];
-        System.out.println("promise " + promise + ", " + line.getFileName() + ":"
-            + line.getLineNumber() + ": answered " + got + ", due is " + due);
+        tellWrong("answered " + got + ", due is " + due);
+    }
+
+    void same(String got, String due) {
+        if (got.equals(due)) {
+            passed++;
+            return;
+        }
+        tellWrong("it is " + got + ", due is " + due);
     }
 
     /** An answer of 1 whose number asked() tells. */
     void tells(ClockFeet x, long got, long dueAsked) {
-        if (got == 1 && x.asked() == dueAsked) {
+        told(x, got, 1, dueAsked);
+    }
+
+    /** An answer, and the number that asked() tells then. */
+    void told(ClockFeet x, long got, long due, long dueAsked) {
+        if (got == due && x.asked() == dueAsked) {
             passed++;
             return;
         }
-        failed++;
-        StackTraceElement line = new Throwable().getStackTrace()[1];
-        System.out.println("promise " + promise + ", " + line.getFileName() + ":"
-            + line.getLineNumber() + ": answered " + got + " and told " + x.asked()
-            + ", due are 1 and " + dueAsked);
+        tellWrong("answered " + got + " and told " + x.asked() + ", due are " + due + " and " + dueAsked);
     }
 
-    /** A FINDING: the answer, which one it was, and that it was counted once. */
+    /** An answer of 1 whose numbers upper(), lower() tell. */
+    void ratio(ClockFeet x, long got, long dueUpper, long dueLower) {
+        if (got == 1 && x.upper() == dueUpper && x.lower() == dueLower) {
+            passed++;
+            return;
+        }
+        tellWrong("answered " + got + " and told " + x.upper() + "/" + x.lower() + ", due are 1 and "
+            + dueUpper + "/" + dueLower);
+    }
+
+    /** A FINDING: the answer, and which one it was. */
     void finds(ClockFeet x, int answer, int finding) {
         if (answer == ClockFeet.FINDING && x.finding() == finding) {
             passed++;
             return;
         }
-        failed++;
-        StackTraceElement line = new Throwable().getStackTrace()[1];
-        System.out.println("promise " + promise + ", " + line.getFileName() + ":"
-            + line.getLineNumber() + ": answered " + answer + " with finding " + x.finding()
-            + ", due are -3 and " + finding);
+        tellWrong("answered " + answer + " with finding " + x.finding() + ", due are -3 and " + finding);
+    }
+
+    private void tellWrong(String what) {
+        StackWalker.StackFrame frame = StackWalker.getInstance().walk(frames -> frames
+            .filter(one -> !one.getClassName().equals("Checks") && !one.getClassName().startsWith("Twins"))
+            .findFirst().orElseThrow());
+        String words = sentence.isEmpty() ? "" : " (" + sentence + ")";
+        wrong("promise " + promise + words + ", " + frame.getFileName() + ":" + frame.getLineNumber() + ": " + what);
     }
 
     void wrong(String what) {
@@ -60,12 +105,18 @@ final class Checks {
     }
 
     boolean allRight() {
+        endSentence();
         for (int number = 1; number <= PROMISES; number++) {
             if (!seen[number]) {
                 wrong("promise " + number + " has no test");
             }
         }
-        System.out.println("checks: " + passed + " as due, " + failed + " not");
+        for (int part = 0; part < document.parts(); part++) {
+            if (!document.unnamed(part).isEmpty()) {
+                wrong("promise " + part + ", no test names: " + document.unnamed(part));
+            }
+        }
+        System.out.println("checks: " + passed + " as due, " + failed + " not; " + sentences + " sentences of the document");
         return failed == 0;
     }
 }

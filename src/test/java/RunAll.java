@@ -14,6 +14,11 @@ final class RunAll {
         AgainTest.run(c);
         ChancesTest.run(c);
         ToldTest.run(c);
+        TermsSentencesTest.run(c);
+        RowSentencesTest.run(c);
+        StepSentencesTest.run(c);
+        AskSentencesTest.run(c);
+        ToldSentencesTest.run(c);
         PlainClockTest.run(c);
         AnyCallTest.run(c);
         LanguageTest.run(c);
