@@ -12,7 +12,7 @@ public final class ClockFeet {
     private static final int ROWS = 6, MOST_PLACES = 40, TEXTS = 4, MOST_BYTES = 60, KEPT_HALLS = 3;
     private static final int LEAST_TEETH = 12, MOST_TEETH = 60, MOST_STEPS = 60;
     private static final int MOST_GUILDS = 6, MOST_RENTS = 6, MOST_SETS = 64;
-    private static final int MOST_WALKS = 10, MOST_LOTS = 30, MOST_WALKS_TO_BOTH = 3600;
+    private static final int MOST_WALKS = 10, MOST_LOTS = 30;
     private static final int MISSING = -1;
     private static final int BLANK = 32;
     private static final int FIRST_FLOOR_STEP = 6;
@@ -25,9 +25,9 @@ public final class ClockFeet {
     private final Strip[] keptSteps = new Strip[KEPT_HALLS];
     private final int[][] keptFeet = new int[KEPT_HALLS][MOST_GUILDS];
     private final Reader reader = new Reader();
-    private final Sets sets = new Sets(hall);
+    private final Sets sets = new Sets();
     private final Strip firstOrder = new Strip(MOST_GUILDS);
-    private final Ways ways = new Ways(hall);
+    private final Ways ways = new Ways();
     private final int[] findingCounts = new int[SIZE + 1];
     private int latestFinding = 0;
     private int told = 0;
@@ -283,7 +283,7 @@ public final class ClockFeet {
         if (!hall.hasGuild(g) || !hall.hasTooth(tooth) || !has(rows, r)) {
             return BAD;
         }
-        sets.look();
+        sets.look(hall);
         sets.weigh(g, tooth);
         if (sets.fewestWrongs() > 0) {
             return NONE;
@@ -296,7 +296,7 @@ public final class ClockFeet {
         if (hall.isEmpty()) {
             return STATE;
         }
-        sets.look();
+        sets.look(hall);
         int orders = sets.countQuiet();
         told = sets.lastInQuiet();
         return tellRatio(orders, 1);
@@ -306,7 +306,7 @@ public final class ClockFeet {
         if (hall.isEmpty()) {
             return STATE;
         }
-        sets.look();
+        sets.look(hall);
         sets.weigh(NOBODY, 0);
         sets.tellFirstOrder(firstOrder);
         told = 0;
@@ -322,10 +322,11 @@ public final class ClockFeet {
         if (!hall.hasTooth(tooth)) {
             return BAD;
         }
-        ways.findCosts(false);
-        int walks = ways.costTo(tooth);
+        int way = hall.wayTo(tooth);
+        ways.findCosts(hall, false);
+        int walks = ways.costOf(way);
         if (walks != NONE) {
-            told = ways.firstWalker(tooth);
+            told = ways.firstWalker(hall, way);
         }
         return walks;
     }
@@ -334,8 +335,8 @@ public final class ClockFeet {
         if (!hall.hasTooth(tooth)) {
             return BAD;
         }
-        ways.findCosts(true);
-        return ways.costTo(tooth);
+        ways.findCosts(hall, true);
+        return ways.costOf(hall.wayTo(tooth));
     }
 
     public int never() {
@@ -372,7 +373,7 @@ public final class ClockFeet {
         if (!hall.hasTooth(n)) {
             return BAD;
         }
-        sets.look();
+        sets.look(hall);
         told = sets.firstFit(n);
         return tellRatio(sets.countFits(n, 0), 1);
     }
@@ -381,7 +382,7 @@ public final class ClockFeet {
         if (!hall.hasTooth(n)) {
             return BAD;
         }
-        sets.look();
+        sets.look(hall);
         int number = sets.countFits(n, 0);
         if (number == 0) {
             return find(NOUGHT);
@@ -401,7 +402,7 @@ public final class ClockFeet {
         if (!hall.hasTooth(n)) {
             return BAD;
         }
-        sets.look();
+        sets.look(hall);
         int number = sets.countFits(n, 0);
         if (number == 0) {
             return find(NOUGHT);
@@ -439,7 +440,9 @@ public final class ClockFeet {
             return NONE;
         }
         int walksPerTurn = hall.walksToReturn(tread);
-        for (int walks = first; walks <= MOST_WALKS_TO_BOTH; walks += walksPerTurn) {
+        // Behind n turns the other clock is where it was, so 3600 walks are never passed.
+        for (int turn = 0; turn < n; turn++) {
+            int walks = first + turn * walksPerTurn;
             if ((tooth + walks * tread) % n == 0) {
                 told = hall.byTeeth(hall.tooth + walks * tread);
                 return walks;
@@ -468,12 +471,12 @@ public final class ClockFeet {
         if (!hall.hasTooth(tooth) || n < 0 || n > MOST_WALKS) {
             return BAD;
         }
-        ways.countRows(n);
+        ways.countRows(hall, n);
         long every = 1;
         for (int i = 0; i < n; i++) {
             every *= hall.guildCount;
         }
-        return tellRatio(ways.rowsTo(tooth), every);
+        return tellRatio(ways.rowsOf(hall.wayTo(tooth)), every);
     }
 
     public int lots(int n, int seed) {
@@ -1049,6 +1052,11 @@ public final class ClockFeet {
             return remainder(from, teeth);
         }
 
+        /** How many TEETH further on a TOOTH is. */
+        int wayTo(int place) {
+            return wrap(place - tooth);
+        }
+
         /** A number by TEETH, cut; 0 while there are none. */
         int byTeeth(int number) {
             return teeth < 1 ? 0 : number / teeth;
@@ -1177,35 +1185,34 @@ public final class ClockFeet {
      * not on the order, so a look at every set stands for a look at every ORDER.
      */
     private static final class Sets {
-        private final Hall hall;
         private final int[] shifts = new int[MOST_SETS];
         private final int[] stops = new int[MOST_SETS];
+        private final boolean[] dues = new boolean[MOST_SETS];
         private final int[] scores = new int[MOST_SETS];
+        private int guildCount = 0;
         private int all = 0;
         private int toldGuild = NOBODY;
         private int toldTooth = 0;
 
-        Sets(Hall hall) {
-            this.hall = hall;
-        }
-
         /** Finds by how many TEETH each set moves the DIAL on, whole ROUNDS aside, and to where. */
-        void look() {
+        void look(Hall hall) {
+            guildCount = Math.min(hall.guildCount, MOST_GUILDS);
+            all = (1 << guildCount) - 1;
             shifts[0] = 0;
-            stops[0] = hall.tooth;
-            for (int g = 0; g < hall.guildCount; g++) {
+            for (int g = 0; g < guildCount; g++) {
                 int bit = 1 << g;
-                int tread = hall.treadNow(g);
                 for (int set = 0; set < bit; set++) {
-                    shifts[set | bit] = hall.wrap(shifts[set] + tread);
-                    stops[set | bit] = hall.wrap(stops[set] + tread);
+                    shifts[set | bit] = hall.wrap(shifts[set] + hall.treadNow(g));
                 }
             }
-            all = (1 << hall.guildCount) - 1;
+            for (int set = 0; set <= all; set++) {
+                stops[set] = hall.wrap(hall.tooth + shifts[set]);
+                dues[set] = hall.hasRentAt(stops[set]);
+            }
         }
 
-        private boolean isDue(int set) {
-            return hall.hasRentAt(stops[set]);
+        private static boolean isIn(int set, int g) {
+            return (set >> g & 1) == 1;
         }
 
         /**
@@ -1218,8 +1225,8 @@ public final class ClockFeet {
             scores[all] = 0;
             for (int set = all - 1; set >= 0; set--) {
                 int least = MOST_SETS;
-                for (int g = 0; g < hall.guildCount; g++) {
-                    if ((set >> g & 1) == 0) {
+                for (int g = 0; g < guildCount; g++) {
+                    if (!isIn(set, g)) {
                         least = Math.min(least, wrongsBy(set, g));
                     }
                 }
@@ -1230,7 +1237,7 @@ public final class ClockFeet {
         private int wrongsBy(int set, int g) {
             int then = set | 1 << g;
             int wrongs = scores[then];
-            if (isDue(then)) {
+            if (dues[then]) {
                 wrongs++;
             }
             if (g == toldGuild && stops[then] != toldTooth) {
@@ -1245,9 +1252,9 @@ public final class ClockFeet {
 
         /** Puts the first ORDER of the fewest wrongs into a ROW. */
         void tellFirstOrder(Strip into) {
-            into.open(hall.guildCount, 0);
+            into.open(guildCount, 0);
             int set = 0;
-            for (int i = 0; i < hall.guildCount; i++) {
+            for (int i = 0; i < guildCount; i++) {
                 int next = firstBehind(set);
                 into.replace(i, next);
                 set |= 1 << next;
@@ -1255,8 +1262,8 @@ public final class ClockFeet {
         }
 
         private int firstBehind(int set) {
-            for (int g = 0; g < hall.guildCount; g++) {
-                if ((set >> g & 1) == 0 && wrongsBy(set, g) == scores[set]) {
+            for (int g = 0; g < guildCount; g++) {
+                if (!isIn(set, g) && wrongsBy(set, g) == scores[set]) {
                     return g;
                 }
             }
@@ -1268,12 +1275,12 @@ public final class ClockFeet {
             scores[0] = 1;
             for (int set = 1; set <= all; set++) {
                 int number = 0;
-                for (int g = 0; g < hall.guildCount; g++) {
-                    if ((set >> g & 1) == 1) {
+                for (int g = 0; g < guildCount; g++) {
+                    if (isIn(set, g)) {
                         number += scores[set ^ 1 << g];
                     }
                 }
-                scores[set] = isDue(set) ? 0 : number;
+                scores[set] = dues[set] ? 0 : number;
             }
             return scores[all];
         }
@@ -1281,7 +1288,7 @@ public final class ClockFeet {
         /** Behind countQuiet(): who can be the last one. */
         int lastInQuiet() {
             int last = 0;
-            for (int g = 0; g < hall.guildCount; g++) {
+            for (int g = 0; g < guildCount; g++) {
                 if (scores[all] > 0 && scores[all ^ 1 << g] > 0) {
                     last |= 1 << g;
                 }
@@ -1310,39 +1317,30 @@ public final class ClockFeet {
         }
     }
 
-    /** What walks of any GUILDS, as often as wanted, can come to. */
+    /** What walks of any GUILDS, as often as wanted, can come to, by TEETH further on. */
     private static final class Ways {
         private static final int NEVER = 1000000;
 
-        private final Hall hall;
         private final int[] costs = new int[MOST_TEETH];
         private final long[] counts = new long[MOST_TEETH];
         private final long[] former = new long[MOST_TEETH];
 
-        Ways(Hall hall) {
-            this.hall = hall;
-        }
-
-        private int wayTo(int tooth) {
-            return hall.wrap(tooth - hall.tooth);
-        }
-
-        /** Finds the fewest walks, or the fewest FEET, for each number of TEETH further on. */
-        void findCosts(boolean byFeet) {
-            for (int i = 0; i < MOST_TEETH; i++) {
-                costs[i] = i == 0 ? 0 : NEVER;
+        /** Finds the fewest walks, or the fewest FEET, for each way. */
+        void findCosts(Hall hall, boolean byFeet) {
+            for (int way = 0; way < MOST_TEETH; way++) {
+                costs[way] = way == 0 ? 0 : NEVER;
             }
             boolean better = true;
             for (int turn = 0; turn < MOST_TEETH && better; turn++) {
                 better = false;
                 for (int g = 0; g < hall.guildCount; g++) {
                     int cost = byFeet ? hall.guilds[g].feet : 1;
-                    better |= spread(hall.treadNow(g), cost);
+                    better |= spread(hall, hall.treadNow(g), cost);
                 }
             }
         }
 
-        private boolean spread(int tread, int cost) {
+        private boolean spread(Hall hall, int tread, int cost) {
             boolean better = false;
             for (int from = 0; from < hall.teeth; from++) {
                 int to = hall.wrap(from + tread);
@@ -1354,36 +1352,34 @@ public final class ClockFeet {
             return better;
         }
 
-        int costTo(int tooth) {
-            int cost = costs[wayTo(tooth)];
-            return cost >= NEVER ? NONE : cost;
+        int costOf(int way) {
+            return costs[way] >= NEVER ? NONE : costs[way];
         }
 
-        /** Behind findCosts() by walks: who walks first to a TOOTH, or NONE. */
-        int firstWalker(int tooth) {
-            int walks = costs[wayTo(tooth)];
+        /** Behind findCosts() by walks: who walks first on a way, or NONE. */
+        int firstWalker(Hall hall, int way) {
             for (int g = 0; g < hall.guildCount; g++) {
-                if (costs[wayTo(tooth - hall.treadNow(g))] == walks - 1) {
+                if (costs[hall.wrap(way - hall.treadNow(g))] == costs[way] - 1) {
                     return g;
                 }
             }
             return NONE;
         }
 
-        /** Counts the rows of n walks by how many TEETH they go, whole ROUNDS aside. */
-        void countRows(int n) {
-            for (int i = 0; i < MOST_TEETH; i++) {
-                counts[i] = i == 0 ? 1 : 0;
+        /** Counts the rows of n walks by their ways. */
+        void countRows(Hall hall, int n) {
+            for (int way = 0; way < MOST_TEETH; way++) {
+                counts[way] = way == 0 ? 1 : 0;
             }
             for (int i = 0; i < n; i++) {
-                countOneMore();
+                countOneMore(hall);
             }
         }
 
-        private void countOneMore() {
-            for (int i = 0; i < MOST_TEETH; i++) {
-                former[i] = counts[i];
-                counts[i] = 0;
+        private void countOneMore(Hall hall) {
+            for (int way = 0; way < MOST_TEETH; way++) {
+                former[way] = counts[way];
+                counts[way] = 0;
             }
             for (int g = 0; g < hall.guildCount; g++) {
                 int tread = hall.treadNow(g);
@@ -1393,8 +1389,8 @@ public final class ClockFeet {
             }
         }
 
-        long rowsTo(int tooth) {
-            return counts[wayTo(tooth)];
+        long rowsOf(int way) {
+            return counts[way];
         }
     }
 }

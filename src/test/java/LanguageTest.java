@@ -1,5 +1,4 @@
 import java.io.IOException;
-import java.lang.reflect.Constructor;
 import java.lang.reflect.Field;
 import java.lang.reflect.Member;
 import java.lang.reflect.Method;
@@ -89,7 +88,7 @@ final class LanguageTest {
         List<Member> all = new ArrayList<>();
         all.addAll(List.of(ClockFeet.class.getDeclaredMethods()));
         all.addAll(List.of(ClockFeet.class.getDeclaredFields()));
-        all.addAll(List.of((Constructor<?>[]) ClockFeet.class.getDeclaredConstructors()));
+        all.addAll(List.of(ClockFeet.class.getDeclaredConstructors()));
         for (Member member : all) {
             boolean hidden = Modifier.isPrivate(member.getModifiers()) || member.isSynthetic();
             if (!hidden && !Modifier.isPublic(member.getModifiers())) {
