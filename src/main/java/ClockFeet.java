@@ -367,7 +367,7 @@ public final class ClockFeet {
         return keys;
     }
 
-    // ---- 6 who had walked
+    // ---- 6 who had walked (each GUILD once at most)
 
     public int fits(int n) {
         if (!hall.hasTooth(n)) {

@@ -12,6 +12,7 @@ final class AnyCallTest {
     }
 
     static void run(Checks c) {
+        c.beside("any call");
         everyEdge(c, "");
         everyEdge(c, "d12 k1");
         everyEdge(c, "d60 h9 r9 g9 c9 t9 k9 e01 e59 e30");

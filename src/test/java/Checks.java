@@ -1,10 +1,8 @@
 /** Counts what answers as it is due, and prints each call that does not, by its line. */
 final class Checks {
-    private static final int PROMISES = 45;
-
     private final Document document = new Document();
-    private final boolean[] seen = new boolean[PROMISES + 1];
-    private int promise = 0;
+    private final boolean[] seen = new boolean[document.parts()];
+    private String where = "";
     private String sentence = "";
     private int atSentence = 0;
     private int sentences = 0;
@@ -14,26 +12,30 @@ final class Checks {
     /** What follows tests this promise. */
     void promise(int number) {
         endSentence();
-        promise = number;
+        where = Document.nameOf(number);
         seen[number] = true;
     }
 
-    /** What follows tests these words of the document; 0 are its Terms. */
-    void sentence(int number, String words) {
+    /** What follows tests no one promise but this. */
+    void beside(String what) {
         endSentence();
-        promise = number;
-        seen[number] = true;
+        where = what;
+    }
+
+    /** What follows tests these words of the document: of a promise, by its number, or of another part. */
+    void sentence(int part, String words) {
+        promise(part);
         sentence = words;
         atSentence = passed + failed;
         sentences++;
-        if (!document.name(number, words)) {
-            wrong("promise " + number + " does not say (once more): " + words);
+        if (!document.name(part, words)) {
+            wrong(where + " does not say (once more): " + words);
         }
     }
 
     private void endSentence() {
         if (!sentence.isEmpty() && passed + failed == atSentence) {
-            wrong("promise " + promise + ", nothing is looked at for: " + sentence);
+            wrong(where + ", nothing is looked at for: " + sentence);
         }
         sentence = "";
     }
@@ -92,7 +94,7 @@ final class Checks {
             .filter(one -> !one.getClassName().equals("Checks") && !one.getClassName().startsWith("Twins"))
             .findFirst().orElseThrow());
         String words = sentence.isEmpty() ? "" : " (" + sentence + ")";
-        wrong("promise " + promise + words + ", " + frame.getFileName() + ":" + frame.getLineNumber() + ": " + what);
+        wrong(where + words + ", " + frame.getFileName() + ":" + frame.getLineNumber() + ": " + what);
     }
 
     void wrong(String what) {
@@ -106,14 +108,12 @@ final class Checks {
 
     boolean allRight() {
         endSentence();
-        for (int number = 1; number <= PROMISES; number++) {
-            if (!seen[number]) {
-                wrong("promise " + number + " has no test");
-            }
-        }
         for (int part = 0; part < document.parts(); part++) {
+            if (!seen[part]) {
+                wrong(Document.nameOf(part) + " has no test");
+            }
             if (!document.unnamed(part).isEmpty()) {
-                wrong("promise " + part + ", no test names: " + document.unnamed(part));
+                wrong(Document.nameOf(part) + ", no test names: " + document.unnamed(part));
             }
         }
         System.out.println("checks: " + passed + " as due, " + failed + " not; " + sentences + " sentences of the document");

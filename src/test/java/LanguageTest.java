@@ -9,14 +9,11 @@ import java.util.ArrayList;
 import java.util.HashSet;
 import java.util.List;
 import java.util.Set;
-import java.util.TreeSet;
-import java.util.regex.Matcher;
 import java.util.regex.Pattern;
 
-/** The face of the document, and the rules of LANGUAGE.md that can be looked up. */
+/** The rules of LANGUAGE.md that can be looked up. */
 final class LanguageTest {
     private static final Path SOURCE = Path.of("src/main/java/ClockFeet.java");
-    private static final Path DOCUMENT = Path.of("../shared/DOC.md");
     private static final String[] FORBIDDEN = {"throw", "throws", "try", "catch", "synchronized",
         "assert", "import", "package", "protected", "default ->", "->", "::", "@", "record", "Object",
         "toString", "hashCode", "equals", "System.out", "System.nanoTime", "System.currentTimeMillis",
@@ -26,50 +23,18 @@ final class LanguageTest {
     }
 
     static void run(Checks c) {
+        c.beside("LANGUAGE.md");
         try {
-            face(c, Files.readString(DOCUMENT));
             words(c, codeOf(Files.readString(SOURCE)));
         } catch (IOException missing) {
             c.wrong("can't read " + missing.getMessage());
         }
-        constants(c);
         members(c);
         sizes(c);
     }
 
     private static String codeOf(String source) {
         return source.replaceAll("(?s)/\\*.*?\\*/", "").replaceAll("//[^\n]*", "");
-    }
-
-    private static void face(Checks c, String document) {
-        Set<String> due = new TreeSet<>();
-        Matcher line = Pattern.compile("    public (int|long) (\\w+)\\(([^)]*)\\);").matcher(document);
-        while (line.find()) {
-            due.add(line.group(1) + " " + line.group(2) + " " + line.group(3).replaceAll(" \\w+(,|$)", "$1"));
-        }
-        Set<String> got = new TreeSet<>();
-        for (Method method : ClockFeet.class.getDeclaredMethods()) {
-            if (Modifier.isPublic(method.getModifiers())) {
-                StringBuilder types = new StringBuilder();
-                for (Class<?> type : method.getParameterTypes()) {
-                    types.append(types.length() == 0 ? "" : ", ").append(type.getName());
-                }
-                got.add(method.getReturnType().getName() + " " + method.getName() + " " + types);
-            }
-        }
-        c.is(due.size(), 44);
-        if (!due.equals(got)) {
-            c.wrong("the face is " + got + ", due is " + due);
-        }
-    }
-
-    private static void constants(Checks c) {
-        c.is(ClockFeet.BAD, -1);
-        c.is(ClockFeet.FULL, -2);
-        c.is(ClockFeet.FINDING, -3);
-        c.is(ClockFeet.STATE, -4);
-        c.is(ClockFeet.SPENT, -6);
-        c.is(ClockFeet.NONE, -9);
     }
 
     private static void words(Checks c, String code) {

@@ -18,6 +18,7 @@ final class PlainClockTest {
     }
 
     static void run(Checks c) {
+        c.beside("random calls");
         for (int run = 0; run < RUNS; run++) {
             new PlainClockTest(c, run).oneRun(run);
         }

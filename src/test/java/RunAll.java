@@ -14,6 +14,8 @@ final class RunAll {
         AgainTest.run(c);
         ChancesTest.run(c);
         ToldTest.run(c);
+        WhatItIsTest.run(c);
+        FaceTest.run(c);
         TermsSentencesTest.run(c);
         RowSentencesTest.run(c);
         StepSentencesTest.run(c);
@@ -22,6 +24,7 @@ final class RunAll {
         PlainClockTest.run(c);
         AnyCallTest.run(c);
         LanguageTest.run(c);
+        ReadmeTest.run(c);
         if (!c.allRight()) {
             System.exit(1);
         }

@@ -19,7 +19,6 @@ final class ToldSentencesTest {
         finding(c);
         findings(c);
         digest(c);
-        latestCall(c);
     }
 
     private static void odds(Checks c) {
@@ -535,17 +534,5 @@ final class ToldSentencesTest {
             all *= 31;
         }
         return all;
-    }
-
-    /** The 512th call still answers; nothing is told of later ones but that they don't throw. */
-    private static void latestCall(Checks c) {
-        c.promise(45);
-        ClockFeet x = new ClockFeet();
-        Halls.write(x, 0, "d12g1");
-        x.hall(0);
-        for (int i = 8; i <= 511; i++) {
-            c.is(x.count(1), 12);
-        }
-        c.is(x.walk(0), 1);
     }
 }
