@@ -379,14 +379,11 @@ public final class ClockFeet {
     }
 
     public int sure(int n) {
-        if (!hall.hasTooth(n)) {
-            return BAD;
+        int refusal = refuseUnfit(n);
+        if (refusal != FINE) {
+            return refusal;
         }
-        sets.look(hall);
         int number = sets.countFits(n, 0);
-        if (number == 0) {
-            return find(NOUGHT);
-        }
         int always = 0;
         int nowhere = 0;
         for (int g = 0; g < hall.guildCount; g++) {
@@ -399,14 +396,11 @@ public final class ClockFeet {
     }
 
     public int ask(int n) {
-        if (!hall.hasTooth(n)) {
-            return BAD;
+        int refusal = refuseUnfit(n);
+        if (refusal != FINE) {
+            return refusal;
         }
-        sets.look(hall);
         int number = sets.countFits(n, 0);
-        if (number == 0) {
-            return find(NOUGHT);
-        }
         int best = 0;
         int least = number + 1;
         for (int g = 0; g < hall.guildCount; g++) {
@@ -578,6 +572,15 @@ public final class ClockFeet {
             return refusal;
         }
         return strips[s].has(i) ? FINE : find(BEYOND);
+    }
+
+    /** Looks at all sets; what no set fits is refused. */
+    private int refuseUnfit(int n) {
+        if (!hall.hasTooth(n)) {
+            return BAD;
+        }
+        sets.look(hall);
+        return sets.countFits(n, 0) > 0 ? FINE : find(NOUGHT);
     }
 
     private int open(Strip[] strips, int s, int n, int filler) {

@@ -25,7 +25,9 @@ final class LanguageTest {
     static void run(Checks c) {
         c.beside("LANGUAGE.md");
         try {
-            words(c, codeOf(Files.readString(SOURCE)));
+            String source = Files.readString(SOURCE);
+            words(c, codeOf(source));
+            lengths(c, source);
         } catch (IOException missing) {
             c.wrong("can't read " + missing.getMessage());
         }
@@ -45,6 +47,20 @@ final class LanguageTest {
                 c.wrong("the program holds '" + word + "'");
             } else {
                 c.right();
+            }
+        }
+    }
+
+    /** Signs 1 to 127 alone, and methods that stay short. */
+    private static void lengths(Checks c, String source) {
+        c.is(source.chars().filter(sign -> sign < 1 || sign > 127).count(), 0);
+        int begin = 0;
+        String[] lines = source.split("\n");
+        for (int i = 0; i < lines.length; i++) {
+            if (lines[i].matches(" {4}( {4})?(?!if |for |while |switch )\\w.*\\) \\{")) {
+                begin = i;
+            } else if (lines[i].matches(" {4}( {4})?\\}") && i - begin > 60) {
+                c.wrong("a method of " + (i - begin) + " lines ends in line " + (i + 1));
             }
         }
     }
